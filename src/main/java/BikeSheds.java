@@ -724,20 +724,15 @@ public final class BikeSheds {
             return place + 1;
         }
 
+        /** Whoever waits behind the person comes nearer by one place. */
         void leaveLists(int person) {
             for (int shed = 0; shed < SHEDS; shed++) {
-                if (waitsFor(person, shed)) {
-                    int place = placeOf[shed][person];
-                    placeOf[shed][person] = NONE;
-                    closeGap(shed, place);
-                }
-            }
-        }
-
-        private void closeGap(int shed, int place) {
-            for (int person = 0; person < PEOPLE; person++) {
-                if (placeOf[shed][person] > place) {
-                    placeOf[shed][person]--;
+                int place = placeOf[shed][person];
+                placeOf[shed][person] = NONE;
+                for (int other = 0; place != NONE && other < PEOPLE; other++) {
+                    if (placeOf[shed][other] > place) {
+                        placeOf[shed][other]--;
+                    }
                 }
             }
         }
